@@ -314,17 +314,17 @@ public final class PlantGraph {
         }
 
         private boolean takesEnds(int thing, int ends) {
-            if (thing == NONE || isTank(thing)) {
-                return true;
+            if (!isThing(thing)) {
+                return thing == NONE;
             }
-            return isThing(thing) && portsTaken[thing] + ends <= PORTS[kind[thing]];
+            return kind[thing] == TANK || portsTaken[thing] + ends <= PORTS[kind[thing]];
         }
 
         private void addEnd(int end, int thing) {
             thingAtEnd[end] = thing;
             portAtEnd[end] = NONE;
             bendAtEnd[end] = NONE;
-            if (!isThing(thing) || isTank(thing) || portsTaken[thing] >= MAX_PORTS) {
+            if (!isThing(thing) || kind[thing] == TANK || portsTaken[thing] >= MAX_PORTS) {
                 return;
             }
             portAtEnd[end] = portsTaken[thing];
