@@ -678,7 +678,7 @@ public final class PlantGraph {
     /** One line of the plant's text. */
     private static final class Line {
         // The longest line is that of a pipe: two ends of two digits, litres of three.
-        private static final int MAX_LINE = 16;
+        private static final int MAX_LINE = 15;
 
         private final byte[] bytes = new byte[MAX_LINE];
         private int length;

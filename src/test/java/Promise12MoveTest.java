@@ -74,6 +74,23 @@ final class Promise12MoveTest {
         Check.due("it came back", Check.fillUp(y, 0), 8);
         y.move(1, 0, 2);
         Check.due("three litres from A", y.content(0), 6);
+        backAndForthInEachPipe();
+    }
+
+    private static void backAndForthInEachPipe() {
+        for (int pipe = 0; pipe < 60; pipe++) {
+            PlantGraph x = Check.freePipes(pipe);
+            x.tank(9);
+            x.tank(9);
+            Check.due("pipe", x.pipe(0, 1, 3), pipe);
+            x.fill(0, 5, 1);
+            x.fill(1, 6, 9);
+            Check.due("one litre at A of pipe " + pipe, x.move(0, 1, 1), 1);
+            Check.due("it leaves at A at once", x.move(1, 0, 1), 1);
+            Check.due("it came back", Check.fillUp(x, 0), 8);
+            Check.due("two more at B", x.move(1, 0, 9), 2);
+            Check.due("all is of B's tank", x.content(pipe), 6);
+        }
     }
 
     private static void whatLeaves() {

@@ -143,6 +143,17 @@ final class TermsValvesTest {
         }
         PlantGraph z = Check.plantOf("valve 4\ntank 1\ntank 1\npipe 0 1 1\npipe 0 2 1\n");
         Check.due("two of four ports", Check.tanksFrom(z, 1), "2");
+
+        // Pipe 0 and the plant before are not at the valve: no port without a pipe leads into them.
+        PlantGraph w = Check.plantOf("valve 4\ntank 1\npipe 0 1 1\npipe 0 1 1\npipe 0 1 1\npipe 0 1 1\n");
+        Check.readText(w, "pump\n");
+        for (int kind = 0; kind <= 8; kind++) {
+            Check.readText(w, "valve " + kind + "\ntank 1\ntank 1\ntank 1\npipe 1 2 1\npipe 3 0 1\n");
+            for (int p = 0; p <= 9; p++) {
+                w.position(0, p);
+                Check.due("kind " + kind + " position " + p + ", one pipe", Check.tanksFrom(w, 3), "");
+            }
+        }
     }
 
     private static void pump() {

@@ -25,7 +25,7 @@ final class TermsWaysTest {
 
     private static void noneTwice() {
         Check.sentence(SECTION, "none twice");
-        // From port 0 into the loop 1 - 1 and out again: kind 6 in position 1 passes 0 - 3 and 1 - 2.
+        // A way that takes a pipe again can be cut short in every plant, so what can be seen is that none is longer.
         PlantGraph x = Check.plantOf("tank 9\nvalve 1\ntank 9\npipe 0 1 1\npipe 1 - 1\npipe 1 2 1\n");
         Check.due("a blind end is not gone back", Check.tanksFrom(x, 0), "");
         x.position(1, 1);
@@ -117,7 +117,7 @@ final class TermsWaysTest {
         one.move(1, 0, 1);
         Check.due("the same way back", Check.contents(one), "2 0");
 
-        // From 0 to 1: 0 2 4 and 1 3 5 are as long; back it is 4 2 0 and 5 3 1, and 4 is the lesser.
+        // From 0 to 1: 0 2 5 and 1 3 4 are as long, and 0 is the lesser. Back: 5 2 0 and 4 3 1, and 4 is the lesser.
         PlantGraph back = Check.plantOf("tank 9\ntank 9\nvalve 7\nvalve 7\nvalve 7\nvalve 7\n"
                 + "pipe 0 2 1\npipe 0 3 1\npipe 2 4 1\npipe 3 5 1\npipe 5 1 1\npipe 4 1 1\n");
         for (int valve = 2; valve <= 5; valve++) {
