@@ -44,6 +44,44 @@ final class Promise06BendTest {
         Check.due("the other one stays", y.bend(0, 4), Check.NONE);
         Check.due("the other one is taken out", y.bend(0, 2), 0);
         Check.due("now the end is free", y.bend(0, 4), 1);
+        takenOutAtEachEnd();
+    }
+
+    /** A bend that is taken out is out at both pipes, whichever is named first: from A of pipe 0 to B of pipe 59. */
+    private static void takenOutAtEachEnd() {
+        for (int pipe = 0; pipe < 60; pipe++) {
+            int next = (pipe + 1) % 60;
+            for (int order = 0; order < 2; order++) {
+                PlantGraph atA = Check.freePipes(60);
+                inAndOut(atA, pipe, next, order);
+                takesBends(atA, pipe, pipe + 10, 2);
+                takesBends(atA, next, pipe + 20, 2);
+
+                PlantGraph atB = Check.freePipes(60);
+                takesOne(atB, pipe, pipe + 30);
+                takesOne(atB, next, pipe + 40);
+                inAndOut(atB, pipe, next, order);
+                takesBends(atB, pipe, pipe + 10, 1);
+                takesBends(atB, next, pipe + 20, 1);
+            }
+        }
+    }
+
+    private static void inAndOut(PlantGraph x, int pipe, int next, int order) {
+        Check.due("put in between " + pipe + " and " + next, x.bend(pipe, next), 1);
+        Check.due("taken out", order == 0 ? x.bend(pipe, next) : x.bend(next, pipe), 0);
+    }
+
+    private static void takesOne(PlantGraph x, int pipe, int other) {
+        Check.due("a bend at pipe " + pipe, x.bend(pipe, other % 60), 1);
+    }
+
+    /** The pipe takes just so many bends, to other pipes from this one on. */
+    private static void takesBends(PlantGraph x, int pipe, int other, int bends) {
+        for (int n = 0; n < bends; n++) {
+            takesOne(x, pipe, other + n);
+        }
+        Check.due("no more at pipe " + pipe, x.bend(pipe, (other + bends) % 60), Check.NONE);
     }
 
     /** Two bends between the same pipes can't come to be: a second call takes the first bend out. */
