@@ -541,7 +541,7 @@ public final class PlantGraph {
         private void gather(Plant plant, Ways ways, int to) {
             size = 0;
             int end = ways.lastEnd(to);
-            for (int n = 0; n < MAX_PIPES && end >= 0; n++) {
+            for (int n = 0; n < MAX_PIPES && isBetween(end, 0, MAX_ENDS - 1); n++) {
                 int litres = plant.pipeLitres[end / 2];
                 for (int i = 0; i < litres; i++) {
                     row.set(size, plant.litreFrom(end, i));
@@ -568,7 +568,7 @@ public final class PlantGraph {
         private void spread(Plant plant, Ways ways, int to, int moved, int comes) {
             int place = moved;
             int end = ways.lastEnd(to);
-            for (int n = 0; n < MAX_PIPES && end >= 0; n++) {
+            for (int n = 0; n < MAX_PIPES && isBetween(end, 0, MAX_ENDS - 1); n++) {
                 int litres = plant.pipeLitres[end / 2];
                 for (int i = 0; i < litres; i++) {
                     plant.setLitreFrom(end, i, place < size ? row.at(place) : comes);

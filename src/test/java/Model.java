@@ -1,17 +1,26 @@
 import java.util.ArrayList;
+import java.util.HashMap;
 import java.util.List;
+import java.util.Map;
 import java.util.regex.Matcher;
 import java.util.regex.Pattern;
 
 /**
  * The document once more, as plainly as can be and in another manner than the program: all ways are
- * walked through, litres go one by one, a text's wrong byte is sought by trying each beginning of it.
+ * walked through (or, in a large plant, sought by distances from their end), litres go one by one, a
+ * text's wrong byte is sought by trying each beginning of it.
  */
 final class Model {
     private static final String NUMBER = "(?:0|[1-9][0-9]{0,6})";
     private static final String END = "(?:-|" + NUMBER + ")";
     private static final Pattern LINE = Pattern.compile(
             "tank " + NUMBER + "\n|pump\n|valve " + NUMBER + "\n|pipe " + END + " " + END + " " + NUMBER + "\n");
+
+    // With more pipes there may be too many ways to walk through all of them.
+    private static final int MOST_TO_WALK = 16;
+    private static final int FAR = Integer.MAX_VALUE;
+
+    static int mostPipesInWay = 0;
 
     private static final class Thing {
         String word;
@@ -262,11 +271,74 @@ final class Model {
 
     /** The ends at which THE WAY leaves its pipes, or null. */
     private List<End> way(Thing from, Thing to) {
+        List<End> near = wayByDistances(from, to);
+        if (pipes.size() > MOST_TO_WALK) {
+            return near;
+        }
         best = null;
         for (End port : from.ports) {
             walk(new ArrayList<>(), port, to);
         }
+        Check.due("both manners find the same way", near == null ? best == null : near.equals(best), true);
         return best;
+    }
+
+    /** Where there are too many ways to walk through: at each pipe that of the lesser number which is near enough. */
+    private List<End> wayByDistances(Thing from, Thing to) {
+        Map<End, Integer> distances = distances(to);
+        List<End> open = others(from.ports);
+        int left = FAR;
+        for (End out : open) {
+            left = Math.min(left, distances.get(out));
+        }
+        if (left == FAR) {
+            return null;
+        }
+        List<End> way = new ArrayList<>();
+        for (; left > 0; left--) {
+            End step = null;
+            for (End out : open) {
+                boolean near = distances.get(out) == left;
+                step = near && (step == null || out.pipe.number < step.pipe.number) ? out : step;
+            }
+            for (End gone : way) {
+                Check.due("no pipe is taken twice", gone.pipe == step.pipe, false);
+            }
+            way.add(step);
+            open = others(next(step));
+        }
+        mostPipesInWay = Math.max(mostPipesInWay, way.size());
+        return way;
+    }
+
+    /** How many pipes it takes at least to a tank for a way that leaves its pipe at an end, this pipe counted. */
+    private Map<End, Integer> distances(Thing to) {
+        Map<End, Integer> distances = new HashMap<>();
+        for (Pipe pipe : pipes) {
+            distances.put(pipe.a, pipe.a.thing == to ? 1 : FAR);
+            distances.put(pipe.b, pipe.b.thing == to ? 1 : FAR);
+        }
+        boolean changed = true;
+        while (changed) {
+            changed = false;
+            for (End end : distances.keySet()) {
+                for (End out : others(next(end))) {
+                    if (distances.get(out) != FAR && distances.get(out) + 1 < distances.get(end)) {
+                        distances.put(end, distances.get(out) + 1);
+                        changed = true;
+                    }
+                }
+            }
+        }
+        return distances;
+    }
+
+    private static List<End> others(List<End> ends) {
+        List<End> others = new ArrayList<>();
+        for (End end : ends) {
+            others.add(end.other());
+        }
+        return others;
     }
 
     long move(int from, int to, long litres) {
